@@ -83,7 +83,7 @@ public final class PunchedTicket {
             case 1: return told.liked[person];
             case 2: return told.kind[person];
             case 3: return now.heldBy(person);
-            case 4: return now.rideOf(person);
+            case 4: return rideOf(person);
             default: return OUTSIDE;
         }
     }
@@ -433,6 +433,11 @@ public final class PunchedTicket {
         return one == other ? OUTSIDE : TAKEN;
     }
 
+    private int rideOf(int person) {
+        now.findRides(trial.rides);
+        return trial.rides[person];
+    }
+
     private void rememberAct() {
         keepIn(acts, (firstAct + actsInRow) % MOST_ACTS);
         if (actsInRow < MOST_ACTS) {
@@ -529,7 +534,7 @@ public final class PunchedTicket {
             idleAt[day] = NONE;
             if (day >= now.day) {
                 int at = trial.moment.at[person];
-                trial.passDay();
+                trial.moment.passDay(trial.rides);
                 idleAt[day] = trial.rides[person] == NONE ? at : NONE;
                 barred |= trial.barredSeats(NONE);
             }
@@ -561,7 +566,7 @@ public final class PunchedTicket {
         trial.start(now);
         int number = trial.addBlank(person, day, idleAt[day], to);
         for (int passing = now.day; passing < DAYS; passing++) {
-            trial.passDay();
+            trial.moment.passDay(trial.rides);
             barred |= trial.barredSeats(number);
         }
         return trial.moment.at[person] == stop ? firstFreeSeat(barred) : NONE;
@@ -581,7 +586,7 @@ public final class PunchedTicket {
             if (!seenIsSoOn(day)) {
                 return false;
             }
-            trial.passDay();
+            trial.moment.passDay(trial.rides);
         }
         return seenIsSoOn(DAYS);
     }
@@ -835,34 +840,29 @@ public final class PunchedTicket {
             return glad;
         }
 
-        boolean takesToday(int ticket, int person) {
-            return holder[ticket] == person && !isGone(ticket) && forDay[ticket] == day
-                && line.kind[person] != STAYING && from(ticket) == at[person];
-        }
-
-        int rideOf(int person) {
-            for (int ticket = 0; ticket < tickets; ticket++) {
-                if (takesToday(ticket, person)) {
-                    return ticket;
-                }
-            }
-            return NONE;
-        }
-
-        // One look at each TICKET for all PEOPLE: trials do this often.
+        /** Notes by which TICKET each PERSON goes this DAY, or NONE. */
         void findRides(int[] rides) {
             for (int person = 0; person < MOST_PEOPLE; person++) {
                 rides[person] = NONE;
             }
             for (int ticket = 0; ticket < tickets; ticket++) {
                 int person = holder[ticket];
-                if (line.hasPerson(person) && rides[person] == NONE && takesToday(ticket, person)) {
+                // Most TICKETS are for other DAYS, and trials come here often: the rest can wait.
+                if (forDay[ticket] == day && line.hasPerson(person)
+                        && rides[person] == NONE && canTake(ticket, person)) {
                     rides[person] = ticket;
                 }
             }
         }
 
-        /** A DAY: notes by which TICKET each PERSON goes (or NONE) and answers who went, as bits. */
+        // This is the deepest call of the longest search, so it calls nothing.
+        boolean canTake(int ticket, int person) {
+            int bit = 1 << ticket;
+            int start = (returns & bit) != 0 ? line.to[ticket] : line.from[ticket];
+            return (gone & bit) == 0 && line.kind[person] != STAYING && start == at[person];
+        }
+
+        /** A DAY: who went, as bits; by which TICKETS, stands in the rides. */
         int passDay(int[] rides) {
             int went = 0;
             findRides(rides);
@@ -920,20 +920,16 @@ public final class PunchedTicket {
             return number;
         }
 
-        int passDay() {
-            return moment.passDay(rides);
-        }
-
         void passDaysTo(int day) {
             for (int passing = moment.day; passing < day; passing++) {
-                passDay();
+                moment.passDay(rides);
             }
         }
 
         int journeysToEnd() {
             int journeys = 0;
             for (int passing = moment.day; passing < DAYS; passing++) {
-                journeys += Integer.bitCount(passDay());
+                journeys += Integer.bitCount(moment.passDay(rides));
             }
             return journeys;
         }
@@ -945,7 +941,7 @@ public final class PunchedTicket {
 
         int firstMeeting(int one, int other) {
             for (int passing = moment.day; passing < DAYS; passing++) {
-                passDay();
+                moment.passDay(rides);
                 if (wentTogether(one, other)) {
                     return passing;
                 }
@@ -955,7 +951,7 @@ public final class PunchedTicket {
 
         int firstDouble() {
             for (int passing = moment.day; passing < DAYS; passing++) {
-                passDay();
+                moment.passDay(rides);
                 if (barredSeats(NONE) != 0) {
                     return passing;
                 }

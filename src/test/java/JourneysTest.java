@@ -273,6 +273,7 @@ public final class JourneysTest {
     PunchedTicket x = Check.lineOf("LP000P000P900T00401T09512");
     CHECK.due("a SEAT beside one", x.blank(0, 3), 31);
     CHECK.due("a SEAT beside two", x.blank(0, 8), 82);
+    CHECK.due("a SEAT beside one of a lesser number", Check.lineOf("LP000P000T00400").blank(1, 3), 31);
     CHECK.due("a CHILD, there", Check.lineOf("LP001P000T00401").blank(0, 0), 11);
     CHECK.due("a CHILD, there and back", Check.lineOf("LP001P000P900T00411T19002").blank(0, 0), 12);
     // The READER's blank one goes on to 1, who goes by it on DAY 3, beside 2 on SEAT 0.
@@ -282,6 +283,8 @@ public final class JourneysTest {
 
   private static void blankThatIsNotUsed() {
     PunchedTicket x = Check.lineOf("LP000P100T20501");
+    CHECK.due("at once", x.blank(0, 7), 70);
+    CHECK.due("it is not there when another call asks", x.where(0, 10), 0);
     CHECK.due("from where it is not", x.blank(0, 0), 100);
     CHECK.due("one that is at 1", x.blank(1, 1), 10);
     x.day();

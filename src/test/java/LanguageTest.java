@@ -2,6 +2,10 @@ import java.io.IOException;
 import java.nio.file.Files;
 import java.nio.file.Path;
 import java.util.List;
+import java.util.Map;
+import java.util.Set;
+import java.util.TreeMap;
+import java.util.TreeSet;
 import java.util.regex.Matcher;
 import java.util.regex.Pattern;
 
@@ -9,6 +13,7 @@ import java.util.regex.Pattern;
 public final class LanguageTest {
   private static final Check CHECK = new Check("LanguageTest");
   private static final Path SOURCE = Path.of("src/main/java/PunchedTicket.java");
+  private static final Map<String, Set<String>> CALLS = new TreeMap<>();
   private static final List<String> RULED_OUT = List.of(
       "\\bthrow\\b", "\\bthrows\\b", "\\btry\\b", "\\bcatch\\b", "\\bsynchronized\\b", "\\bassert\\b", "->", "::",
       "\\bpackage\\b", "\\bvar\\b", "\\bvolatile\\b", "\\btransient\\b", "\\bnative\\b", "\\bprotected\\b",
@@ -25,6 +30,9 @@ public final class LanguageTest {
     imports(code);
     divisors(code);
     methodLengths(code);
+    for (String name : CALLS.keySet()) {
+      CHECK.holds("eight calls deep at most: " + name, depth(name, 1) <= 8);
+    }
     Matcher classes = Pattern.compile("\\b(class|record|enum|interface)\\s+\\w+").matcher(code);
     CHECK.holds("twelve classes at most", classes.results().count() <= 12);
     CHECK.holds("only signs 1 to 127", code.chars().allMatch(sign -> sign > 0 && sign < 128));
@@ -62,7 +70,34 @@ public final class LanguageTest {
           end++;
         }
         CHECK.holds("sixty lines at most: " + lines[start].trim(), end - start < 60);
+        noteCalls(lines, start, end);
       }
     }
+  }
+
+  private static void noteCalls(String[] lines, int start, int end) {
+    Set<String> called = CALLS.computeIfAbsent(nameOf(lines[start]), name -> new TreeSet<>());
+    for (int line = start + 1; line < end; line++) {
+      Matcher call = Pattern.compile("(\\w+)\\(").matcher(lines[line]);
+      while (call.find()) {
+        if (!call.group(1).matches("if|for|while|switch")) {
+          called.add(call.group(1));
+        }
+      }
+    }
+  }
+
+  private static String nameOf(String head) {
+    Matcher name = Pattern.compile("(\\w+)\\(").matcher(head);
+    return name.find() ? name.group(1) : head;
+  }
+
+  /** How many calls stand open at once, at most; methods of one name count as one. */
+  private static int depth(String name, int guard) {
+    int deepest = 0;
+    for (String called : CALLS.getOrDefault(name, Set.of())) {
+      deepest = Math.max(deepest, guard > 30 ? 30 : depth(called, guard + 1));
+    }
+    return 1 + deepest;
   }
 }

@@ -110,6 +110,10 @@ public final class LineTest {
     fault("LP000" + six + "P000", PunchedTicket.NONE);
     fault("LP000" + six + "T", 41);
     fault("LP000" + six + "P0", 43);
+    PunchedTicket x = new PunchedTicket();
+    Check.write(x, "LP000T01230");
+    Check.write(x, "LP000T0");
+    CHECK.due("what was wiped does not count", x.fault(), 7);
   }
 
   private static void line() {
