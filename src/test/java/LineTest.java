@@ -114,6 +114,10 @@ public final class LineTest {
     Check.write(x, "LP000T01230");
     Check.write(x, "LP000T0");
     CHECK.due("what was wiped does not count", x.fault(), 7);
+    Check.write(x, "LP00");
+    CHECK.due("nor does it end a PART", x.fault(), 4);
+    Check.write(x, "LP000T0123");
+    CHECK.due("nor another one", x.line(), PunchedTicket.STATE);
   }
 
   private static void line() {
