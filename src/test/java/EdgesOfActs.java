@@ -54,20 +54,29 @@ final class EdgesOfActs {
   }
 
   private static Edge childs() {
-    return new Edge("Terms", "a CHILD's is for the next DAY, back, same SEAT (a return, if it is none already; else it is gone)")
+    return new Edge("Terms", "TICKETS that were gone by: a CHILD's is for the next DAY, back, same SEAT (a return, if it is none already; else"
+        + " it is gone)")
         .run("line LP121T31740", Edges.times(3, "day() = 0"), "day() = 1", "person(0, 0) = 7", "ticket(0, 0) = 4", "ticket(0, 1) = 7",
             "ticket(0, 2) = 1", "ticket(0, 3) = 4", "ticket(0, 4) = 0", "ticket(0, 5) = 1", "ticket(0, 6) = 0", "day() = 1",
             "person(0, 0) = 1", "ticket(0, 6) = 1", "ticket(0, 0) = 4", "ticket(0, 5) = 1", "day() = 0")
+        .run("line LP001P001T00100T00111", "day() = 3", "ticket(0, 5) = 1", "ticket(1, 5) = 1", "day() = 3", "person(0, 0) = 0",
+            "person(1, 0) = 0")
         // Another CHILD goes by a return: it is gone. A PLAIN one too.
         .run("line LP121P751T01740", "day() = 1", "give(0, 1) = 0", "day() = 2", "person(1, 0) = 1", "ticket(0, 6) = 1")
         .run("line LP121P750T01740", "day() = 1", "give(0, 1) = 0", "day() = 2", "person(1, 0) = 1", "ticket(0, 6) = 1",
             "ticket(0, 5) = 1")
-        // A return for which the CHILD is not there is not used.
-        .run("line LP121T01740T17200", "day() = 1", "give(1, 0) = STATE", "lose(0) = 0", "day() = 1", "person(0, 0) = 2",
-            "ticket(1, 5) = 1")
+        // A return for the DAY on which the CHILD goes by a lesser one is not used: it stays as it is.
+        .run("line LP121T17200T01740", "day() = 1", "person(0, 4) = 0", "day() = 1", "person(0, 0) = 2", "ticket(0, 5) = 1",
+            "ticket(0, 0) = 2", "ticket(1, 5) = 1", "ticket(1, 0) = 1", "ticket(1, 6) = 0", "day() = 1", "person(0, 0) = 7",
+            "ticket(0, 6) = 1", "day() = 0", "ticket(1, 6) = 0")
+        // So is one for which it is not there: GIVEN away, LOST.
+        .run("line LP121P343T01740", "day() = 1", "give(0, 1) = 0", "day() = 0", "person(0, 0) = 7", "ticket(0, 4) = 1", "ticket(0, 6) = 0")
+        .run("line LP121T01740T17200", "day() = 1", "lose(0) = 0", "day() = 1", "person(0, 0) = 2", "ticket(1, 5) = 1",
+            "ticket(0, 5) = 1", "ticket(0, 0) = 1")
         .broken("private static final int RETURN_AFTER", "1", "2")
         .broken("void useTicket(", "!isReturn(ticket) && ", "")
         .broken("void useTicket(", "returns |= 1 << ticket;", "")
+        .broken("void useTicket(", "returns |= 1 << ticket", "returns = 1 << ticket")
         .broken("int passDay(", "at[person] = to(ticket)", "at[person] = line.to[ticket]");
   }
 
@@ -82,6 +91,14 @@ final class EdgesOfActs {
         // A return that a READER goes by is as it was told: there, and no return.
         .run("line LP121P752T01740", "day() = 1", "give(0, 1) = 0", "day() = 2", "person(1, 0) = 1", "ticket(0, 0) = 4",
             "ticket(0, 1) = 1", "ticket(0, 2) = 7", "ticket(0, 3) = 4", "ticket(0, 4) = 0", "ticket(0, 5) = 0", "ticket(0, 6) = 0")
+        // The same for a TICKET that is not the first one, and the other return stays one.
+        .run("line LP121P752T01740T01750", "give(1, 1) = 0", "day() = 1", "undo() = 1", "undo() = 0", "lose(0) = 0", "day() = 1",
+            "ticket(1, 5) = 1", "give(1, 1) = 0", "day() = 2", "ticket(1, 0) = 4", "ticket(1, 1) = 1", "ticket(1, 2) = 7",
+            "ticket(1, 4) = 0", "ticket(1, 5) = 0", "ticket(1, 6) = 0")
+        .run("line LP121P752P001T01740T00152", "day() = 5", "give(0, 1) = 0", "day() = 6", "ticket(0, 5) = 0", "ticket(1, 5) = 1",
+            "ticket(1, 1) = 1", "ticket(1, 2) = 0", "ticket(1, 6) = 1", "person(2, 0) = 0")
+        .broken("void useTicket(", "~(1 << ticket)", "~(1 >> ticket)")
+        .broken("void useTicket(", "returns &= ~(1 << ticket)", "returns = 0")
         .broken("private static final int RETURN_AFTER", "READ_AFTER = 3", "READ_AFTER = 2")
         .broken("private static final int RETURN_AFTER", "READ_AFTER = 3", "READ_AFTER = 4")
         .broken("void useTicket(", "person + 1 < line.people", "person + 2 < line.people")

@@ -82,7 +82,8 @@ final class EdgesOfChances {
   }
 
   private static Edge tenths() {
-    return new Edge("Terms", "LOSSES by x tenths (0 to 10): each TICKET that is not gone is LOST now by itself")
+    return new Edge("Terms", "LOSSES by x tenths (0 to 10): each TICKET that is not gone is LOST now by itself: the chance that a PERSON is at a STOP"
+        + " at the end of all DAYS: a FRACTION.")
         .run("line LP000T00100", "losses(0, 1, 0, true) = 1", "losses(0, 1, 0, false) = 1", "losses(0, 0, 0, true) = 0",
             "losses(0, 0, 0, false) = 1", "losses(0, 1, 10, true) = 0", "losses(0, 1, 10, false) = 1", "losses(0, 0, 10, true) = 1",
             "losses(0, 0, 10, false) = 1", "losses(0, 0, 1, true) = 1", "losses(0, 0, 1, false) = 10", "losses(0, 1, 9, true) = 1",
@@ -144,12 +145,14 @@ final class EdgesOfChances {
         .run("line LP010P010P010P010P010T00100T00101T00102T00103T00104T51904", Edges.run(steps))
         // Bits for which there is no TICKET tell nothing; what is gone is gone.
         .run("line LP010P000T00100", "seed(" + Edges.seedAhead(62) + ")", "years(1) = 2", "seed(" + Edges.seedAhead(63) + ")",
-            "years(1) = 1", "lose(0) = 0", "seed(" + Edges.seedAhead(0) + ")", "years(1) = 1")
+            "years(1) = 1", "lose(0) = 0", "seed(" + Edges.seedAhead(0) + ")", "years(1) = 1",
+            "seed(" + Edges.seedAhead(63) + ")", "years(1) = 1")
         .run("line LP000P110", "years(1) = 2", "years(30) = 60")
         .broken("private static final int SEED_SHIFT", "33", "32")
         .broken("private static final int SEED_SHIFT", "33", "34")
         .broken("int years(", "% TICKET_SETS", "% (TICKET_SETS / 2)")
         .broken("int years(", "trial.moment.gone |= lost", "trial.moment.gone = lost")
+        .broken("int years(", "trial.moment.gone |= lost", "trial.moment.gone ^= lost")
         .broken("int years(", "trial.moment.gone |= lost", "trial.moment.gone |= ~lost")
         .broken("int years(", "sum += trial", "sum = trial");
   }
@@ -286,7 +289,8 @@ final class EdgesOfChances {
   }
 
   private static Edge count() {
-    return new Edge("Promise 30", "6 ACTS in the row, 7 SEEN. OUTSIDE.")
+    return new Edge("Promise 30", "0 letters of THE TEXT, 1 PEOPLE, 2 TICKETS, 3 THE DAY, 4 TICKETS that are gone (bits), 5 how many are where they"
+        + " would like to be now, 6 ACTS in the row, 7 SEEN. OUTSIDE.")
         .run("line LP120P440P333P983T01200T14500T04501", "count(0) = 35", "count(1) = 4", "count(2) = 3", "count(3) = 0", "count(4) = 0",
             "count(5) = 2", "count(6) = 0", "count(7) = 0", "count(8) = OUTSIDE", "count(-1) = OUTSIDE", "count(MIN) = OUTSIDE",
             "count(MAX) = OUTSIDE", "day() = 3", "lose(1) = 0", "see(0, 0, 0) = 1", "write(80) = 36", "count(0) = 36", "count(3) = 1",

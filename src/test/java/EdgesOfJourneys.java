@@ -48,11 +48,11 @@ final class EdgesOfJourneys {
   private static Edge together() {
     return new Edge("Terms", "TOGETHER are two that go on one DAY, if some stretch between two STOPS next to each other is gone over"
         + " by both")
-        .run("line LP200P500T02500T05901", "meet(0, 1) = NONE")
-        .run("line LP200P900T02500T09501", "meet(0, 1) = NONE")
-        .run("line LP500P500T05200T05901", "meet(0, 1) = NONE")
+        .run("line LP200P500T02500T05901", "meet(0, 1) = NONE", "meet(1, 0) = NONE")
+        .run("line LP200P900T02500T09501", "meet(0, 1) = NONE", "meet(1, 0) = NONE")
+        .run("line LP500P500T05200T05901", "meet(0, 1) = NONE", "meet(1, 0) = NONE")
         .run("line LP200P900T05200T05901", "meet(0, 1) = NONE")
-        .run("line LP000P800T00100T08901", "meet(0, 1) = NONE")
+        .run("line LP000P800T00100T08901", "meet(0, 1) = NONE", "meet(1, 0) = NONE")
         .run("line LP200P400T02500T04901", "meet(0, 1) = 0", "meet(1, 0) = 0")
         .run("line LP200P900T02500T09401", "meet(0, 1) = 0", "meet(1, 0) = 0")
         .run("line LP500P400T05200T04901", "meet(0, 1) = 0")
@@ -68,6 +68,10 @@ final class EdgesOfJourneys {
         .run("line LP200P200T02500", "meet(0, 1) = NONE")
         .broken("boolean wentTogether(", ") < Math.min(", ") <= Math.min(")
         .broken("boolean wentTogether(", ") < Math.min(", ") + 1 < Math.min(")
+        .broken("boolean wentTogether(", "lowEnd(first), ", "lowEnd(second), ")
+        .broken("boolean wentTogether(", "lowEnd(second))", "lowEnd(first))")
+        .broken("boolean wentTogether(", "highEnd(first), ", "highEnd(second), ")
+        .broken("boolean wentTogether(", "highEnd(second))", "highEnd(first))")
         .broken("int lowEnd(", "Math.min(line.from[ticket], line.to[ticket])", "line.from[ticket]")
         .broken("int lowEnd(", "Math.min(line.from[ticket], line.to[ticket])", "line.to[ticket]")
         .broken("int highEnd(", "Math.max(line.from[ticket], line.to[ticket])", "line.from[ticket]")
@@ -109,12 +113,17 @@ final class EdgesOfJourneys {
         .run("line LP000P000P000P300P300T03753T03754", "twoSeats() = 0")
         .run("line LP300P000P000P000P300T03750T03754", "twoSeats() = 0")
         .run("line LP300P300P000P000P000T03750T03751", "twoSeats() = 0")
+        .run("line LP000P000P500P500T00100T00101T05602T05603", "twoSeats() = 0")
+        .run("line LP000P000P000T00100T00101T00102", "twoSeats() = 0")
+        .run("line LP000P000P000T00100T00101T00112", "twoSeats() = 0")
         .run("line LP000P000T00530T00541", "twoSeats() = NONE")
         .broken("int firstDouble(", "passing < DAYS", "passing < DAYS - 1")
         .broken("int firstDouble(", "passing = moment.day", "passing = 0")
         .broken("int firstDouble(", "return passing", "return moment.day")
         .broken("int twoSeats(", "trial.start(now)", "trial.moment.begin()")
         .broken("int firstDouble(", "return NONE", "return DAYS")
+        .broken("int barredSeats(", "barred |=", "barred ^=")
+        .broken("int barredSeats(", "barred |=", "barred =")
         .broken("int barredSeats(", "int one = 0", "int one = 1")
         .broken("int barredSeats(", "int other = one + 1", "int other = one + 2")
         .broken("int barredSeats(", "other < line.people", "other < line.people - 1");
@@ -129,6 +138,9 @@ final class EdgesOfJourneys {
         // The first one must get rid of its ways: of two it can, of three it can't.
         .run("line LP000P200P500T00900T00910T10200T12011", "fewest(0, 1, false) = 2")
         .run("line LP000P200P500T00900T00910T00920T10200T12011", "fewest(0, 1, false) = NONE")
+        // Nobody but the other one could have it, and there it stands in the way as well.
+        .run("line LP000P000T00900T10200T10211", "fewest(0, 1, false) = NONE", "fewest(0, 1, true) = NONE")
+        .run("line LP000P000T00900T10200T10210", "fewest(0, 1, false) = NONE", "fewest(0, 1, true) = NONE")
         // Now: what went by doesn't count, what comes on the last DAY does.
         .run("line LP000P000T00200T00211", "day() = 3", "fewest(0, 1, false) = NONE")
         .run("line LP000P000T90200T90210", "fewest(0, 1, false) = 1", Edges.times(9, "day() = 0"), "fewest(0, 1, false) = 1", "day() = 1",
@@ -138,7 +150,9 @@ final class EdgesOfJourneys {
         .broken("int fewest(", "int pair = firstTwoGifts(one, other)", "int pair = NONE")
         .broken("int fewest(", "row ? single : 1", "row ? 1 : single")
         .broken("int fewest(", "row ? pair : 2", "row ? 2 : pair")
-        .broken("int firstGift(", "if (behindAnother)", "if (one == other)");
+        .broken("int firstGift(", "if (behindAnother)", "if (one == other)")
+        .broken("int firstGift(", "person < told.people", "person <= told.people")
+        .broken("int firstTwoGifts(", "person < told.people", "person <= told.people");
   }
 
   private static Edge firstRow() {
@@ -151,6 +165,11 @@ final class EdgesOfJourneys {
             "fewest(0, 2, true) = 0")
         .run("line LP000P000P000T59802T00202T00212", "fewest(0, 1, true) = 1021", "fewest(1, 0, true) = 1021")
         .run("line LP000P000P000P000P000T59800T59800T59800T59800T00200T00210", "fewest(3, 4, true) = 4354", "fewest(3, 4, false) = 2")
+        // Numbers of TICKETS and of PEOPLE are not mixed up: 0 holds TICKET 0, and others may be GIVEN to it.
+        .run("line LP000P000T59800T00201T00211", "fewest(0, 1, true) = 10", "fewest(0, 1, false) = 1")
+        .run("line LP000P000P000T59800T00202T00212", "fewest(0, 1, true) = 1021", "fewest(0, 1, false) = 2")
+        // The first one of the row is for the last PERSON.
+        .run("line LP000P900P500T05301T00411", "fewest(0, 2, true) = 210", "fewest(0, 2, false) = 2")
         .run("line LP000P000", "fewest(0, 1, true) = NONE", "fewest(0, 1, false) = NONE")
         .run("line LP000P003P000T00200T00210", "fewest(0, 1, true) = NONE")
         .broken("int firstGift(", "10 * ticket + person", "10 * person + ticket")
@@ -158,6 +177,9 @@ final class EdgesOfJourneys {
         .broken("int firstGift(", "earlierTicket + 1 : 0", "earlierTicket + 2 : 0")
         .broken("int firstGift(", "ticket < told.tickets", "ticket < told.tickets - 1")
         .broken("int firstGift(", "person < told.people", "person < told.people - 1")
+        .broken("int firstGift(", "canBeGiven(ticket, person)", "canBeGiven(person, person)")
+        .broken("int firstTwoGifts(", "canBeGiven(ticket, person)", "canBeGiven(person, person)")
+        .broken("int firstTwoGifts(", "person < told.people", "person < told.people - 1")
         .broken("int firstTwoGifts(", "int ticket = 0", "int ticket = 1")
         .broken("int firstTwoGifts(", "int person = 0", "int person = 1");
   }
@@ -176,13 +198,18 @@ final class EdgesOfJourneys {
   }
 
   private static Edge fallsOfJourneys() {
-    return new Edge("Terms", "if a TICKET is not LOST now, than if it is (0 for one that is gone; may be less than 0).")
+    return new Edge("Terms", "FALLS: how many more journeys (a PERSON that goes on a DAY) there are from now on, if a TICKET is not LOST now,"
+        + " than if it is (0 for one that is gone; may be less than 0).")
         .run("line LP000T00100", "falls(0) = 101", "lose(0) = 0", "falls(0) = 100")
         .run("line LP000T00100", "day() = 1", "falls(0) = 100")
         .run("line LP000T90100", "falls(0) = 101", Edges.times(9, "day()"), "falls(0) = 101", "day() = 1", "falls(0) = 100")
         .run("line LP000T00100T10200T22300", "falls(0) = 99")
         .run("line LP000T00100T10200T22000T30200T42000T50200", "falls(0) = 96", "falls(1) = 100")
         .run("line LP002P002P002P002T00100", "falls(0) = 104")
+        .run("line LP000T00100T11200T22300", "falls(0) = 103", "falls(1) = 102", "falls(2) = 101")
+        // What was gone ahead of it is gone either way.
+        .run("line LP000T00100T10200", "lose(0) = 0", "falls(1) = 101")
+        .broken("int falls(", "trial.moment.gone |= 1 << ticket", "trial.moment.gone = 1 << ticket")
         .broken("int falls(", "trial.moment.gone |= 1 << ticket", "trial.moment.gone ^= 1 << ticket")
         .broken("int falls(", "with - trial.journeysToEnd()", "Math.max(with - trial.journeysToEnd(), 0)")
         .broken("int journeysToEnd(", "passing < DAYS", "passing < DAYS - 1")
@@ -239,7 +266,8 @@ final class EdgesOfJourneys {
   }
 
   private static Edge blankBehindAll() {
-    return new Edge("Terms", "BLANK for a PERSON (not STAYING) and a STOP: a TICKET more (numbered behind all) that it would hold for a DAY")
+    return new Edge("Terms", "BLANK for a PERSON (not STAYING) and a STOP: a TICKET more (numbered behind all) that it would hold for a DAY,"
+        + " from and to STOPS, a SEAT")
         .run("line LP000T00500", "blank(0, 9) = 1590", "blank(0, 4) = 1540")
         .run("line LP000T00100T00100T00100T00100T00100T00100", "blank(0, 9) = 1190")
         .run("line LP000", "blank(0, 9) = 90", "blank(0, 9) = 90")
@@ -258,6 +286,16 @@ final class EdgesOfJourneys {
         .run("line LP000", "day() = 0", "blank(0, 7) = 1070", Edges.times(8, "day()"), "blank(0, 7) = 9070", "day() = 0",
             "blank(0, 7) = NONE")
         .run("line LP000T90500", "blank(0, 7) = 70", "blank(0, 5) = 50", "blank(0, 0) = NONE")
+        // Back to where it was idle ahead of its journey.
+        .run("line LP000T10500", "blank(0, 0) = 2500")
+        // It is there anyway: the least figures by which it stays so, be it by a DAY that went by.
+        .run("line LP000", "blank(0, 0) = 100", "day() = 0", "blank(0, 0) = 10", Edges.times(9, "day()"), "blank(0, 0) = 10")
+        .run("line LP100", "blank(0, 1) = 10", "day() = 0", "blank(0, 1) = 10")
+        .broken("int firstUsedBlank(", "to != idleAt[day]", "to != idleAt[0]")
+        .broken("int firstUsedBlank(", "if (to != idleAt[day])", "if (day >= 0)")
+        .broken("int blank(", "int day = 0", "int day = now.day")
+        .broken("int firstUnusedBlank(", "from == 0 ? 1 : 0", "0")
+        .broken("int firstUnusedBlank(", "from == 0 ? 1 : 0", "1")
         .broken("int blank(", "day < DAYS", "day < DAYS - 1")
         .broken("int blank(", "from < STOPS", "from < STOPS - 1")
         .broken("int firstUsedBlank(", "to < STOPS", "to < STOPS - 1")
@@ -271,18 +309,23 @@ final class EdgesOfJourneys {
         // There beside four SEATS, back beside two more.
         .run("line LP001P000P000P000P000T00101T00112T00123T00134T11041T11052", "blank(0, 0) = 16")
         .run("line LP000P000P900T00401T09512", "blank(0, 3) = 31", "blank(0, 8) = 82")
+        // There and back beside the same SEAT.
+        .run("line LP001P000T00101T11001", "blank(0, 0) = 11")
         // Only a STOP is shared: any SEAT.
         .run("line LP000P400T04901", "blank(0, 4) = 40", "blank(0, 5) = 51")
         // Two others have ONE SEAT: none will do. What was, was.
         .run("line LP000P000P900T00400T00401", "blank(2, 5) = NONE", "day() = 3", "blank(2, 5) = 1950")
         .run("line LP000P000P900T90400T90401", "blank(2, 5) = NONE", "blank(2, 9) = NONE", Edges.times(9, "day()"), "blank(2, 5) = NONE", "day() = 3",
             "blank(2, 5) = NONE", "blank(2, 9) = 10")
+        .run("line LP000P000P900T00400T00401T14000T14001", "blank(2, 9) = NONE", "blank(2, 5) = NONE")
         // The READER's blank one goes on to 1, who goes by it on DAY 3, beside 2 on SEAT 0.
         .run("line LP002P000P000T30502", "blank(0, 4) = 41")
         .broken("int barredByPair(", "return 1 << line.seat[second]", "return 0")
         .broken("int barredByPair(", "return 1 << line.seat[first]", "return 0")
         .broken("int seatOfUsedBlank(", "trial.start(now)", "trial.moment.begin()")
         .broken("int seatOfUsedBlank(", "barred |= trial", "barred = trial")
+        .broken("int seatOfUsedBlank(", "barred |= trial", "barred ^= trial")
+        .broken("int seatOfUnusedBlank(", "barred |= trial", "barred ^= trial")
         .broken("int seatOfUnusedBlank(", "if (day >= now.day)", "if (day >= now.day && day < DAYS - 1)")
         .broken("boolean wentTogether(", ") < Math.min(", ") <= Math.min(");
   }

@@ -85,7 +85,7 @@ final class EdgesOfLine {
   }
 
   private static Edge kinds() {
-    return new Edge("Terms", "of KIND k: 0 PLAIN, 1 CHILD, 2 READER, 3 STAYING")
+    return new Edge("Terms", "a PERSON at STOP h, that would like to be at STOP w, of KIND k: 0 PLAIN, 1 CHILD, 2 READER, 3 STAYING")
         .run("text LP003", "fault() = NONE", "text LP004", "fault() = 4", "text LP009", "fault() = 4")
         .run("line LP000P001P002P003T00100T00101T00102T00103", "day() = 7", "ticket(0, 6) = 1", "ticket(1, 6) = 0",
             "ticket(1, 5) = 1", "ticket(2, 6) = 0", "ticket(2, 4) = 3", "ticket(3, 6) = 0", "ticket(3, 4) = 3",
@@ -98,7 +98,7 @@ final class EdgesOfLine {
   }
 
   private static Edge anotherStop() {
-    return new Edge("Terms", "from STOP a to another STOP b")
+    return new Edge("Terms", "a TICKET for DAY d, from STOP a to another STOP b")
         .run("text LP000T055", "fault() = 8", "text LP000T05500", "fault() = 8", "text LP000T054", "fault() = 9",
             "text LP000T056", "fault() = 9", "text LP000T000", "fault() = 8", "text LP000T099", "fault() = 8",
             "text LP000T55600", "fault() = NONE")
@@ -316,7 +316,8 @@ final class EdgesOfLine {
   }
 
   private static Edge ticket() {
-    return new Edge("Promise 7", "1 if it is a return (5): as it was last, if it is gone; 1 if it is gone (6).")
+    return new Edge("Promise 7", "Of a TICKET its DAY (what = 0), from (1), to (2), SEAT (3), who holds it (4), 1 if it is a return (5):"
+        + " as it was last, if it is gone; 1 if it is gone (6).")
         .run("line LP121P343T01230T98761", "ticket(0, 5) = 0", "ticket(0, 6) = 0", "day() = 1", "ticket(0, 0) = 1", "ticket(0, 1) = 2",
             "ticket(0, 2) = 1", "ticket(0, 3) = 3", "ticket(0, 4) = 0", "ticket(0, 5) = 1", "ticket(0, 6) = 0", "day() = 1",
             "ticket(0, 0) = 1", "ticket(0, 1) = 2", "ticket(0, 2) = 1", "ticket(0, 3) = 3", "ticket(0, 4) = 0", "ticket(0, 5) = 1",

@@ -21,10 +21,26 @@ public final class EdgesTest {
       holds(edge, PunchedTicket.class);
       holds(edge, Model.class);
     }
+    nothingIsLeftOut(document, edges, "Terms");
     for (int promise = 1; promise <= 30; promise++) {
       promiseIsHeld(document, edges, promise);
+      nothingIsLeftOut(document, edges, "Promise " + promise);
     }
     CHECK.end();
+  }
+
+  /** Every word of a section stands in a sentence of an edge, but for the marks and words between them. */
+  private static void nothingIsLeftOut(String document, List<Edge> edges, String section) {
+    String text = plain(sectionOf(document, section)).replaceAll("Ahead of the calls.*", "").replaceAll("^ ?`[^`]*`:", "");
+    StringBuilder left = new StringBuilder(text);
+    for (Edge edge : edges) {
+      int place = edge.section.equals(section) ? text.indexOf(plain(edge.sentence)) : -1;
+      for (; place >= 0; place = text.indexOf(plain(edge.sentence), place + 1)) {
+        left.replace(place, place + edge.sentence.length(), " ".repeat(edge.sentence.length()));
+      }
+    }
+    String words = left.toString().replaceAll("==== [123]|```text|```|Phwk|Tdabsp|\\band\\b|[;:,.]", "").trim();
+    CHECK.holds("an edge says, of " + section + ": " + words, words.isEmpty());
   }
 
   private static void holds(Edge edge, Class<?> type) throws ReflectiveOperationException {
