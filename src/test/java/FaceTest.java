@@ -1,26 +1,32 @@
+import java.io.IOException;
 import java.lang.reflect.Constructor;
 import java.lang.reflect.Field;
 import java.lang.reflect.Method;
 import java.lang.reflect.Modifier;
+import java.nio.file.Files;
+import java.nio.file.Path;
 import java.util.Arrays;
 import java.util.List;
+import java.util.Set;
 import java.util.TreeSet;
+import java.util.regex.Matcher;
+import java.util.regex.Pattern;
 
 /** The public face of the document, and rule 1, 5 and 11 of LANGUAGE.md as far as the class shows them. */
 public final class FaceTest {
   private static final Check CHECK = new Check("FaceTest");
 
-  private static final List<String> FACE = List.of(
-      "int again(int)", "int bestChange()", "int blank(int, int)", "int change(int, int)", "int count(int)",
-      "int day()", "int falls(int)", "int fault()", "int fewest(int, int, boolean)", "int give(int, int)",
-      "int glad()", "int held(int)", "int keep(int)", "int line()", "int lose(int)",
-      "int losses(int, int, int, boolean)", "int meet(int, int)", "int person(int, int)", "int see(int, int, int)",
-      "int share(int, boolean)", "int ticket(int, int)", "int twoSeats()", "int undo()", "int unsee()",
-      "int where(int, int)", "int wipe()", "int write(int)", "int years(int)", "long seed(long)");
+  private static final Set<Class<?>> CONSTANTS = Set.of(
+      int.class, long.class, boolean.class, char.class, String.class,
+      int[].class, long[].class, char[].class, byte[].class);
+  private static final Path DOCUMENT = Path.of("../shared/DOC.md");
+  private static final Path SOURCE = Path.of("src/main/java/PunchedTicket.java");
 
-  public static void main(String[] args) throws ReflectiveOperationException {
+  public static void main(String[] args) throws IOException, ReflectiveOperationException {
+    List<String> face = faceOf(Files.readString(DOCUMENT));
+    declarations(face, Files.readString(SOURCE));
     constants();
-    members();
+    members(face);
     for (Class<?> inner : PunchedTicket.class.getDeclaredClasses()) {
       CHECK.holds(inner + " is static", Modifier.isStatic(inner.getModifiers()));
       CHECK.holds(inner + " is not public", (inner.getModifiers() & (Modifier.PUBLIC | Modifier.PROTECTED)) == 0);
@@ -28,6 +34,26 @@ public final class FaceTest {
     }
     sizes(PunchedTicket.class);
     CHECK.end();
+  }
+
+  /** The lines of the document's face, without what ends them. */
+  private static List<String> faceOf(String document) {
+    Matcher block = Pattern.compile("(?s)## The public face\\s+```java\n(.*?)\n}\n```").matcher(document);
+    CHECK.holds("the document has a face", block.find());
+    return block.group(1).lines().map(line -> line.trim().replaceAll("(;| \\{)$", "")).toList();
+  }
+
+  /** The class is told as the document tells it, with the same names of parameters. */
+  private static void declarations(List<String> face, String source) {
+    CHECK.due("lines of the face", face.size(), 32);
+    for (String line : face) {
+      CHECK.holds("the source says: " + line, source.contains(line + " {\n") || source.contains(line + ";\n"));
+    }
+  }
+
+  /** "public int where(int person, int day)" as reflection tells it: "int where(int, int)". */
+  private static String withoutNames(String line) {
+    return line.replace("public ", "").replaceAll("(int|long|boolean) \\w+(?=[,)])", "$1");
   }
 
   private static void constants() throws ReflectiveOperationException {
@@ -52,7 +78,7 @@ public final class FaceTest {
     return method.getReturnType() + " " + method.getName() + "(" + types.substring(1, types.length() - 1) + ")";
   }
 
-  private static void members() {
+  private static void members(List<String> face) {
     int modifiers = PunchedTicket.class.getModifiers();
     CHECK.holds("the class is public and final", Modifier.isPublic(modifiers) && Modifier.isFinal(modifiers));
     Constructor<?>[] constructors = PunchedTicket.class.getDeclaredConstructors();
@@ -69,7 +95,14 @@ public final class FaceTest {
         CHECK.holds(told(method) + " is no static one", !Modifier.isStatic(method.getModifiers()));
       }
     }
-    CHECK.holds("the methods are those of the document: " + open, open.equals(new TreeSet<>(FACE)));
+    TreeSet<String> told = new TreeSet<>();
+    for (String line : face) {
+      if (line.matches("public (int|long) \\w+\\(.*")) {
+        told.add(withoutNames(line));
+      }
+    }
+    CHECK.due("methods of the document", told.size(), 29);
+    CHECK.holds("the methods are those of the document: " + open, open.equals(told));
     for (Method method : PunchedTicket.class.getDeclaredMethods()) {
       if (Modifier.isPrivate(method.getModifiers())) {
         CHECK.holds("a private method named " + method.getName(), !publicNames.contains(method.getName()));
@@ -82,6 +115,7 @@ public final class FaceTest {
     for (Field field : type.getDeclaredFields()) {
       if (Modifier.isStatic(field.getModifiers())) {
         CHECK.holds(field + " is final", Modifier.isFinal(field.getModifiers()));
+        CHECK.holds(field + " is a constant", CONSTANTS.contains(field.getType()));
       } else {
         fields++;
       }

@@ -28,6 +28,7 @@ public final class LanguageTest {
       CHECK.holds(words + " stands nowhere", !matcher.find());
     }
     imports(code);
+    library(code);
     divisors(code);
     methodLengths(code);
     for (String name : CALLS.keySet()) {
@@ -48,6 +49,21 @@ public final class LanguageTest {
     while (matcher.find()) {
       String name = matcher.group(1);
       CHECK.holds("import " + name, name.matches("java\\.util\\.(Arrays|ArrayList|List|Iterator)"));
+    }
+  }
+
+  /** What is not the class's own is used by these names alone: the rest of the library stands nowhere. */
+  private static void library(String code) {
+    Set<String> own = new TreeSet<>(Set.of("PunchedTicket"));
+    Matcher classes = Pattern.compile("\\bclass\\s+(\\w+)").matcher(code);
+    while (classes.find()) {
+      own.add(classes.group(1));
+    }
+    Matcher names = Pattern.compile("\\b[A-Z]\\w*[a-z]\\w*(\\.\\w+)?").matcher(code);
+    while (names.find()) {
+      String name = names.group();
+      CHECK.holds("of the library: " + name, own.contains(name) || name.matches(
+          "Math\\.(max|min|abs)|(Integer|Long)\\.(bitCount|compare|max|min)|System\\.arraycopy|Arrays\\.(copyOf|copyOfRange|fill)"));
     }
   }
 

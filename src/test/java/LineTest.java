@@ -4,6 +4,7 @@ public final class LineTest {
 
   public static void main(String[] args) {
     newObject();
+    eachForItself();
     writeAndWipe();
     faultsOfPeople();
     faultsOfTickets();
@@ -17,7 +18,10 @@ public final class LineTest {
   }
 
   private static void newObject() {
-    PunchedTicket x = new PunchedTicket();
+    isNew(new PunchedTicket());
+  }
+
+  private static void isNew(PunchedTicket x) {
     for (int what = 0; what <= 7; what++) {
       CHECK.due("count(" + what + ")", x.count(what), 0);
     }
@@ -29,6 +33,42 @@ public final class LineTest {
     CHECK.due("seed(0) at first", x.seed(0), 0);
     CHECK.due("again(0) at first", x.again(0), PunchedTicket.STATE);
     CHECK.due("undo() at first", x.undo(), PunchedTicket.STATE);
+  }
+
+  /** Whatever is done with one object, a later one is new, and whatever is done with that changes nothing here. */
+  private static void eachForItself() {
+    PunchedTicket x = Check.lineOf("LP130P240T01300T12401");
+    PunchedTicket early = new PunchedTicket();
+    x.seed(5);
+    x.see(1, 4, 10);
+    x.keep(0);
+    x.day();
+    isNew(early);
+    PunchedTicket other = new PunchedTicket();
+    isNew(other);
+    Check.write(other, "LP990T09800");
+    CHECK.due("line() of the other", other.line(), 11);
+    other.keep(0);
+    other.day();
+    other.blank(0, 4);
+    other.years(30);
+    other.see(0, 5, 1);
+    CHECK.due("count(0) beside another", x.count(0), 21);
+    CHECK.due("count(1) beside another", x.count(1), 2);
+    CHECK.due("count(3) beside another", x.count(3), 1);
+    CHECK.due("count(4) beside another", x.count(4), 1);
+    CHECK.due("count(6) beside another", x.count(6), 1);
+    CHECK.due("count(7) beside another", x.count(7), 1);
+    CHECK.due("where(1, 10) beside another", x.where(1, 10), 4);
+    CHECK.due("held(1) beside another", x.held(1), 2);
+    CHECK.due("ticket(1, 1) beside another", x.ticket(1, 1), 2);
+    CHECK.due("undo() beside another", x.undo(), 0);
+    CHECK.due("person(0, 0) beside another", x.person(0, 0), 1);
+    CHECK.due("again(0) beside another", x.again(0), 0);
+    CHECK.due("person(0, 0) as it was kept", x.person(0, 0), 1);
+    CHECK.due("line() of its own text", x.line(), 22);
+    CHECK.due("person(0, 1) of its own text", x.person(0, 1), 3);
+    CHECK.due("seed(0) beside another", x.seed(0), 5);
   }
 
   private static void writeAndWipe() {
